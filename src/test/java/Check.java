@@ -1,0 +1,74 @@
+import java.nio.charset.StandardCharsets;
+
+/** What the tests share: answers that are due, and texts put on the tape. */
+final class Check {
+    private final String name;
+    private int looked;
+    private int wrong;
+
+    Check(String name) {
+        this.name = name;
+    }
+
+    void due(String call, long got, long want) {
+        looked++;
+        if (got != want) {
+            wrong++;
+            if (wrong <= 40) {
+                System.out.println(name + ": " + call + " answered " + got + ", due is " + want);
+            }
+        }
+    }
+
+    void due(String call, boolean got, boolean want) {
+        due(call, got ? 1 : 0, want ? 1 : 0);
+    }
+
+    /** Ends the program with exit code 1 if an answer was wrong. */
+    void finish() {
+        System.out.println(name + ": " + looked + " answers, " + wrong + " wrong");
+        if (wrong != 0 || looked == 0) {
+            System.exit(1);
+        }
+    }
+
+    static byte[] bytes(String text) {
+        return text.getBytes(StandardCharsets.ISO_8859_1);
+    }
+
+    /** Puts bytes behind those on the tape, of which there are so many already. */
+    static void feed(BeamBoard x, byte[] bytes, int already) {
+        for (int i = 0; i < bytes.length; i += 20) {
+            x.feed(number(bytes, i), number(bytes, i + 4), number(bytes, i + 8), number(bytes, i + 12), number(bytes, i + 16));
+        }
+        x.end(already + bytes.length);
+    }
+
+    static void feed(BeamBoard x, String text) {
+        feed(x, bytes(text), 0);
+    }
+
+    /** Four bytes, the highest first; blanks beyond the end. */
+    static int number(byte[] bytes, int from) {
+        int number = 0;
+        for (int i = from; i < from + 4; i++) {
+            number = number << 8 | (i < bytes.length ? bytes[i] & 255 : ' ');
+        }
+        return number;
+    }
+
+    /** Feeds a text and makes it the board: what board() answers. */
+    static int read(BeamBoard x, String text) {
+        feed(x, text);
+        return x.board();
+    }
+
+    /** A new object with this board. */
+    static BeamBoard board(String text) {
+        BeamBoard x = new BeamBoard();
+        if (read(x, text) == BeamBoard.NONE) {
+            throw new IllegalArgumentException("fault " + x.fault(0) + " at " + x.fault(1) + ": " + text);
+        }
+        return x;
+    }
+}
