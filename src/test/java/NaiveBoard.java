@@ -217,17 +217,18 @@ final class NaiveBoard {
         return isSquare(column, row) && way >= 0 && way < 4 ? light(255).getOrDefault(new Node(column, row, way), 0) : NONE;
     }
 
-    int lit(int colour) {
-        if (!List.of(1, 2, 4, 7).contains(colour)) {
-            return NONE;
-        }
+    Set<List<Integer>> litSquares(int colour) {
         Set<List<Integer>> squares = new HashSet<>();
         light(255).forEach((n, c) -> {
             if ((c & colour) != 0) {
                 squares.add(List.of(n.column, n.row));
             }
         });
-        return squares.size();
+        return squares;
+    }
+
+    int lit(int colour) {
+        return List.of(1, 2, 4, 7).contains(colour) ? litSquares(colour).size() : NONE;
     }
 
     int sees(int eye) {
