@@ -376,7 +376,7 @@ public final class BeamBoard {
     }
 
     private int shadowOn(int place, int eyesWithout) {
-        table.tryOut(WALL, NONE, place);
+        table.putTried(WALL, NONE, place);
         int eyesWith = course.eyesInEnd(table, turned, state);
         table.put(NONE, place);
         return eyesWith == NONE || eyesWithout == NONE ? 0 : Integer.bitCount(eyesWithout & ~eyesWith);
@@ -432,7 +432,7 @@ public final class BeamBoard {
     private int formMetOn(int place) {
         int found = NONE;
         for (int form = 0; form <= 1 && found == NONE; form++) {
-            table.tryOut(MIRROR, form, place);
+            table.putTried(MIRROR, form, place);
             if (isAsWished(course.eyesInEnd(table, turned, state))) {
                 found = form;
             }
@@ -817,7 +817,7 @@ public final class BeamBoard {
         }
 
         /** A PIECE that the text doesn't tell comes onto an empty SQUARE. */
-        void tryOut(int newSort, int newLook, int square) {
+        void putTried(int newSort, int newLook, int square) {
             sort[TRIED_PIECE] = newSort;
             look[TRIED_PIECE] = newLook;
             number[TRIED_PIECE] = NONE;
