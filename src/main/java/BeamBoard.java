@@ -157,7 +157,7 @@ public final class BeamBoard {
         if (what == 0) {
             return reader.faultFound;
         }
-        return what == 1 && reader.faultFound != 0 ? reader.faultPlace : NONE;
+        return what == 1 ? reader.faultPlace : NONE;
     }
 
     public int has(int what) {
@@ -995,11 +995,12 @@ public final class BeamBoard {
             int first = node - way;
             int steps = far[node] + 1;
             int piece = on.pieceOn[node / WAYS];
-            int look = piece == NONE ? NONE : on.lookNow(piece, turned, state);
-            switch (piece == NONE ? EMPTY : on.sort[piece]) {
-                case EMPTY:
-                    send(on.next[node], colours, steps);
-                    break;
+            if (piece == NONE) {
+                send(on.next[node], colours, steps);
+                return;
+            }
+            int look = on.lookNow(piece, turned, state);
+            switch (on.sort[piece]) {
                 case MIRROR:
                 case VANE:
                     send(on.next[first + turnedWay(way, look)], colours, steps);
@@ -1495,7 +1496,7 @@ public final class BeamBoard {
         private int choose(int first, int last) {
             int word = tokens.kind[at] == Tokens.OWN ? tokens.value[at] : NONE;
             if (word < first || word > last) {
-                refuseToken();
+                refuse(FAULT_TEXT, tokens.faultPlace[at]);
                 return 0;
             }
             advance();

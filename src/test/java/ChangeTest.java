@@ -117,8 +117,25 @@ public final class ChangeTest {
         darkest(Check.board("size 3 3;wall at 0 0;"), 1, 0, 0);
         darkest(Check.board("size 2 2;wall at 0 0;eye a at 0 1;eye b at 1 0;eye c at 1 1;"), NONE, NONE, NONE);
         darkest(Check.board(BLINKS), 1, 1, 0);
+        BeamBoard full = Check.board(full());
+        darkest(full, 1, 11, 1);
+        CHECK.due("shadow(11, 11)", full.shadow(11, 11), 0);
+        // The light as it will be in the end is what a wall takes away, not that of now.
+        BeamBoard later = Check.board("size 3 4;lamp red right at 0 2;vane slash when not all at 1 2;eye a at 1 0;eye b at 1 3;");
+        later.set(1);
+        darkest(later, 1, 1, 1);
+        CHECK.due("sees(1) now", later.sees(1), 1);
         // Ahead of the same shadow: the row counts first, then the column.
         darkest(Check.board("size 4 4;lamp red down at 3 0;eye a at 3 3;lamp red right at 0 2;eye b at 2 2;"), 3, 1, 1);
+    }
+
+    /** As large as can be, with as many PIECES as can be: fifty-five walls, a lamp, two mirrors and an eye. */
+    private static String full() {
+        StringBuilder text = new StringBuilder("size 12 12;lamp red right at 0 11;mirror slash at 11 0;half back at 10 0;eye a at 10 11;");
+        for (int i = 0; i < 55; i++) {
+            text.append("wall at ").append(i % 5).append(' ').append(i / 5).append(';');
+        }
+        return text.toString();
     }
 
     private static void more(BeamBoard x, int column, int row, int form) {
@@ -158,6 +175,16 @@ public final class ChangeTest {
         z.wish(0, 2);
         more(z, 1, 1, 0);
         more(Check.board(BLINKS), NONE, NONE, NONE);
+        BeamBoard later = Check.board("size 3 4;lamp red right at 0 2;vane slash when not all at 1 2;eye a at 0 1;");
+        later.set(1);
+        later.wish(0, 1);
+        more(later, 1, 1, 1);
+        BeamBoard full = Check.board(full());
+        more(full, 5, 0, 0);
+        full.wish(0, 2);
+        more(full, 1, 11, 0);
+        needed(full, 10, 11, 1);
+        CHECK.due("lit(7)", full.lit(7), 10);
     }
 
     private static void solutions(BeamBoard x, int count, int sure, int bare) {
@@ -230,6 +257,21 @@ public final class ChangeTest {
         w.wish(0, 2);
         near(w, 0, 2);
         near(w, 1, 2);
+        // Six that are kept: far away in all bits, and in five.
+        StringBuilder text = new StringBuilder("size 3 6;");
+        for (int i = 0; i < 6; i++) {
+            text.append("lamp red right at 0 ").append(i).append(";shutter when sees e").append((char) ('a' + i))
+                    .append(" red at 1 ").append(i).append(";eye e").append((char) ('a' + i)).append(" at 2 ").append(i).append(';');
+        }
+        BeamBoard six = Check.board(text.toString());
+        for (int eye = 0; eye < 6; eye++) {
+            six.wish(eye, 1);
+        }
+        near(six, 0, 63);
+        near(six, 4, 63);
+        six.wish(0, 2);
+        near(six, 0, 62);
+        near(six, 1, 62);
     }
 
     private static void near(BeamBoard x, int state, int due) {

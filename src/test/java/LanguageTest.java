@@ -9,11 +9,11 @@ import java.util.ArrayList;
 import java.util.Arrays;
 import java.util.List;
 import java.util.TreeSet;
+import java.util.regex.Pattern;
 
 /** The face of the class, and those of LANGUAGE.md's rules that can be looked at from outside. */
 public final class LanguageTest {
     private static final Check CHECK = new Check("LanguageTest");
-    private static final String INT = "int";
     private static final String[] FACE = {
         "feed int int int int int int", "end boolean int", "board int", "fault int int", "has int int", "letter int int int",
         "square int int int int", "turn int int", "turned int", "set boolean int", "state int", "light int int int int",
@@ -25,7 +25,7 @@ public final class LanguageTest {
     };
     private static final String[] FORBIDDEN = {
         "throw", "try", "catch", "synchronized", "assert", "->", "::", "while (true)", "for (;;)", "@Override", "import static",
-        "Random", "currentTimeMillis", "nanoTime", "System.out", "hashCode", "Exact(", "Object ",
+        "Random", "currentTimeMillis", "nanoTime", "System.out", "hashCode", "Exact(", "Object",
     };
 
     public static void main(String[] args) throws IOException {
@@ -64,7 +64,7 @@ public final class LanguageTest {
             CHECK.due(field.getName(), isPrivate, !field.getName().equals("NONE"));
             if (Modifier.isStatic(field.getModifiers())) {
                 CHECK.due(field.getName() + " is final", Modifier.isFinal(field.getModifiers()), true);
-                boolean isPlain = field.getType() == String.class || field.getType().toString().equals(INT);
+                boolean isPlain = field.getType() == String.class || field.getType().toString().equals("int");
                 CHECK.due(field.getName() + " is a constant", isPlain, true);
             }
         }
@@ -96,8 +96,7 @@ public final class LanguageTest {
             String line = lines.get(i);
             String code = line.trim().startsWith("//") || line.trim().startsWith("*") || line.trim().startsWith("/**") ? "" : line;
             for (String word : FORBIDDEN) {
-                CHECK.due("line " + (i + 1) + " has " + word, code.matches(".*\\b" + java.util.regex.Pattern.quote(word) + ".*")
-                        || !Character.isLetter(word.charAt(0)) && code.contains(word), false);
+                CHECK.due("line " + (i + 1) + " has " + word, has(code, word), false);
             }
             CHECK.due("line " + (i + 1) + " joins texts by +", code.contains("\" +") || code.contains("+ \""), false);
             CHECK.due("line " + (i + 1) + " imports", code.startsWith("import") && !code.equals("import java.util.Arrays;"), false);
@@ -109,5 +108,12 @@ public final class LanguageTest {
                 methodStart = i;
             }
         }
+    }
+
+    /** Whether the code has this piece of text; if it begins or ends with a letter, no letter must stand beside it. */
+    private static boolean has(String code, String word) {
+        String before = Character.isLetter(word.charAt(0)) ? "\\b" : "";
+        String behind = Character.isLetter(word.charAt(word.length() - 1)) ? "\\b" : "";
+        return Pattern.compile(before + Pattern.quote(word) + behind).matcher(code).find();
     }
 }

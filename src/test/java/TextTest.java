@@ -16,6 +16,8 @@ public final class TextTest {
         unknownNames();
         whichComesFirst();
         whatStays();
+        manyBoards();
+        cutTexts();
         CHECK.finish();
     }
 
@@ -121,6 +123,11 @@ public final class TextTest {
         bad(1, HEAD + "^foo at 0 0;");
         bad(1, HEAD + "lamp ^up red at 0 0;");
         bad(1, HEAD + "lamp red ^at 0 0;");
+        bad(1, HEAD + "lamp ^when up at 0 0;");
+        bad(1, HEAD + "lamp red ^white at 0 0;");
+        bad(1, HEAD + "lamp red ^slash at 0 0;");
+        bad(1, HEAD + "mirror ^left at 0 0;");
+        bad(1, HEAD + "mirror ^or at 0 0;");
         bad(1, HEAD + "lamp red ^red at 0 0;");
         bad(1, HEAD + "lamp red up ^0 0;");
         bad(1, HEAD + "mirror ^red at 0 0;");
@@ -276,6 +283,7 @@ public final class TextTest {
         CHECK.due("what was stays", x.back(), 1);
         CHECK.due("the tape is gone", x.end(1), false);
         x.set(1);
+        x.wish(0, 2);
 
         CHECK.due("another board", Check.read(x, "size 3 2;lamp red right at 0 0;mirror back at 1 0;eye a at 1 1;shutter when not all at 2 1;"), 5);
         CHECK.due("the tape is gone", x.end(1), false);
@@ -286,6 +294,74 @@ public final class TextTest {
         CHECK.due("nothing was", x.back(), NONE);
         x.turn(0);
         CHECK.due("nothing is wished", x.met(), 1);
+        x.turn(0);
+        CHECK.due("nothing is wished not lit, either", x.met(), 1);
         CHECK.due("the image stays", x.octet(4), 1);
+    }
+
+    /** One board behind the other, with refused ones between: nothing of one is left in another. */
+    private static void manyBoards() {
+        BeamBoard x = new BeamBoard();
+        for (int i = 0; i < 6; i++) {
+            String name = "round " + i + ": ";
+            CHECK.due(name + "the first", Check.read(x, "size 12 3;lamp red right at 0 0;eye abc at 2 0;eye b at 3 0;mirror back at 11 2;"
+                    + "shutter when sees abc red at 1 0;wall at 5 2;glass red at 1 1;vane slash when not all at 2 2;"), 9);
+            has(x, name, 12, 3, 1, 1, 2, 2, 8);
+            CHECK.due(name + "step(1)", x.step(1), 0);
+            CHECK.due(name + "set(1)", x.set(1), true);
+            CHECK.due(name + "step(1)", x.step(1), 1);
+            CHECK.due(name + "letter(0, 2)", x.letter(0, 2), 'c');
+            CHECK.due(name + "refused", Check.read(x, "size 9 9;eye abc at 8 8;lamp green up at 7 7;shutter when all at 6 6;?"), NONE);
+            has(x, name, 12, 3, 1, 1, 2, 2, 8);
+            CHECK.due(name + "the second", Check.read(x, "size 2 5;vane back when all at 0 0;eye abc at 0 1;"), 3);
+            has(x, name, 2, 5, 0, 0, 1, 1, 2);
+            CHECK.due(name + "step(1)", x.step(1), 1);
+            CHECK.due(name + "lit(7)", x.lit(7), 0);
+            CHECK.due(name + "square(1, 4, 0)", x.square(1, 4, 0), 0);
+            CHECK.due(name + "refused", Check.read(x, ""), NONE);
+            if (i % 2 == 0) {
+                CHECK.due(name + "the third", Check.read(x, "size 3 3;"), 1);
+                has(x, name, 3, 3, 0, 0, 0, 0, 0);
+            }
+        }
+    }
+
+    /** What stands on the tape behind its end is no part of the text. */
+    private static void cutTexts() {
+        cut("size 2 2;wal", "l at 0 0;", 1, 9);
+        cut("size 2 1", "2;", 2, 7);
+        cut("size 12 1", "2;wall at 0 0;", 2, 8);
+        cut("size 12 12;wall at 0 0", ";", 1, 22);
+        cut("size 12 12;", "wall at 0 0", 0, NONE);
+        cut("size 12 12; ", ";", 0, NONE);
+        cut("", "size 12 12;", 1, 0);
+        BeamBoard x = new BeamBoard();
+        String[] long1600 = {"a", "1", ";", "[", " ", "?", "a;"};
+        int[] places = {6, 4, 0, 0, 1600, 0, 0};
+        for (int i = 0; i < long1600.length; i++) {
+            Check.feed(x, long1600[i].repeat(1600 / long1600[i].length()));
+            CHECK.due("1600 bytes " + long1600[i], x.board(), NONE);
+            CHECK.due("1600 bytes " + long1600[i], x.fault(0), 1);
+            CHECK.due("1600 bytes " + long1600[i], x.fault(1), places[i]);
+        }
+        String tests = "size 4 4;shutter when all" + " or[[[[[[all]]]]]]".repeat(87) + "at 0 0;";
+        good(tests + " ".repeat(1600 - tests.length()), 2);
+        String sees = "size 4 4;eye a at 1 1;shutter when sees a red" + " or sees a red".repeat(108) + " at 0 0;";
+        good(sees + " ".repeat(1600 - sees.length()), 3);
+    }
+
+    private static void cut(String text, String behind, int fault, int place) {
+        BeamBoard x = new BeamBoard();
+        Check.feed(x, text + behind);
+        CHECK.due("end of " + text, x.end(text.length()), true);
+        CHECK.due("board() of " + text, x.board() == NONE, fault != 0);
+        CHECK.due("fault(0) of " + text, x.fault(0), fault);
+        CHECK.due("fault(1) of " + text, x.fault(1), place);
+    }
+
+    private static void has(BeamBoard x, String name, int... due) {
+        for (int what = 0; what < due.length; what++) {
+            CHECK.due(name + "has(" + what + ")", x.has(what), due[what]);
+        }
     }
 }

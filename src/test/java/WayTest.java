@@ -203,6 +203,21 @@ public final class WayTest {
         CHECK.due("back()", x.back(), 15);
         x.wish(0, 0);
         CHECK.due("back() goes on", x.back(), 14);
+        // Each setting with both its parts, beyond sixteen.
+        BeamBoard y = Check.board("size 4 4;mirror slash at 0 0;half back at 1 0;mirror back at 2 0;shutter when all at 0 1;"
+                + "shutter when all at 1 1;vane slash when not all at 2 1;shutter when all at 3 1;vane back when all at 3 2;");
+        for (int i = 1; i <= 30; i++) {
+            if (i % 10 == 0) {
+                y.turn(i / 10 - 1);
+            } else {
+                y.set(i);
+            }
+        }
+        for (int left = 15; left >= 0; left--) {
+            CHECK.due("back()", y.back(), left);
+            int i = left + 14;
+            setting(y, i < 20 ? 1 : 3, i == 20 ? 19 : i);
+        }
     }
 
     private static void setting(BeamBoard x, int turned, int state) {
