@@ -323,7 +323,7 @@ public final class TextTest {
                 CHECK.due(name + "the third", Check.read(x, "size 3 3;"), 1);
                 has(x, name, 3, 3, 0, 0, 0, 0, 0);
             }
-            String test = "sees a red" + " and sees b red or sees a red".repeat(30) + " and not all";
+            String test = "sees a red" + " and sees b red or sees a red".repeat(20) + " and not all";
             CHECK.due(name + "a long test", Check.read(x, "size 3 2;lamp red right at 0 0;eye a at 1 0;eye b at 0 1;shutter when "
                     + test + " at 2 0;vane back when not [" + test + "] at 2 1;"), 6);
             CHECK.due(name + "step(1)", x.step(1), 2);
