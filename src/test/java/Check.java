@@ -24,6 +24,29 @@ final class Check {
         due(call, got ? 1 : 0, want ? 1 : 0);
     }
 
+    /** A text without a fault, of so many statements. */
+    void good(String text, int statements) {
+        BeamBoard x = new BeamBoard();
+        feed(x, text);
+        due(text, x.board(), statements);
+        due(text + " fault(0)", x.fault(0), 0);
+        due(text + " fault(1)", x.fault(1), BeamBoard.NONE);
+        due(text + " fault(2)", x.fault(2), BeamBoard.NONE);
+    }
+
+    /** A text with a fault: ^ stands ahead of the byte at which it is. */
+    void bad(int fault, String marked) {
+        int place = marked.indexOf('^');
+        String text = marked.substring(0, place) + marked.substring(place + 1);
+        BeamBoard x = new BeamBoard();
+        feed(x, text);
+        due(marked, x.board(), BeamBoard.NONE);
+        due(marked + " fault(0)", x.fault(0), fault);
+        due(marked + " fault(1)", x.fault(1), place);
+        due(marked + " fault(2)", x.fault(2), BeamBoard.NONE);
+        due(marked + " fault(-1)", x.fault(-1), BeamBoard.NONE);
+    }
+
     /** Ends the program with exit code 1 if an answer was wrong. */
     void finish() {
         System.out.println(name + ": " + looked + " answers, " + wrong + " wrong");

@@ -12,7 +12,8 @@ public final class ImageTest {
         CHECK.finish();
     }
 
-    private static byte[] checked(int... bytes) {
+    /** An image of these bytes, with its check byte behind them. */
+    static byte[] checked(int... bytes) {
         byte[] image = new byte[bytes.length + 1];
         int check = 13;
         for (int i = 0; i < bytes.length; i++) {

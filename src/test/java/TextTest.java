@@ -22,24 +22,11 @@ public final class TextTest {
     }
 
     private static void good(String text, int statements) {
-        BeamBoard x = new BeamBoard();
-        Check.feed(x, text);
-        CHECK.due(text, x.board(), statements);
-        CHECK.due(text + " fault(0)", x.fault(0), 0);
-        CHECK.due(text + " fault(1)", x.fault(1), NONE);
-        CHECK.due(text + " fault(2)", x.fault(2), NONE);
+        CHECK.good(text, statements);
     }
 
     private static void bad(int fault, String marked) {
-        int place = marked.indexOf('^');
-        String text = marked.substring(0, place) + marked.substring(place + 1);
-        BeamBoard x = new BeamBoard();
-        Check.feed(x, text);
-        CHECK.due(marked, x.board(), NONE);
-        CHECK.due(marked + " fault(0)", x.fault(0), fault);
-        CHECK.due(marked + " fault(1)", x.fault(1), place);
-        CHECK.due(marked + " fault(2)", x.fault(2), NONE);
-        CHECK.due(marked + " fault(-1)", x.fault(-1), NONE);
+        CHECK.bad(fault, marked);
     }
 
     private static void goodTexts() {
