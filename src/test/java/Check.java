@@ -67,6 +67,11 @@ final class Check {
         x.end(already + bytes.length);
     }
 
+    /** How many calls feed() makes for so many bytes. */
+    static int callsToFeed(int bytes) {
+        return (bytes + 19) / 20 + 1;
+    }
+
     static void feed(BeamBoard x, String text) {
         feed(x, bytes(text), 0);
     }

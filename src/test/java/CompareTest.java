@@ -1,7 +1,7 @@
 /** All promises beside the faults: the class against NaiveBoard, on boards made from seeds. */
 public final class CompareTest {
     private static final Check CHECK = new Check("CompareTest");
-    private static final int BOARDS = 400;
+    private static final int BOARDS = 200;
 
     public static void main(String[] args) {
         int boards = args.length > 0 ? Integer.parseInt(args[0]) : BOARDS;
@@ -18,12 +18,12 @@ public final class CompareTest {
         NaiveText naive = new NaiveText(text);
         naive.read();
         NaiveBoard n = new NaiveBoard(naive);
-        BeamBoard x = new BeamBoard();
         String name = "seed " + seed + ": " + text + ": ";
         if (text.length() > 1600) {
             return;
         }
-        CHECK.due(name + "board()", Check.read(x, text), naive.statements);
+        CHECK.due(name + "board()", Check.read(new BeamBoard(), text), naive.statements);
+        Replayed x = new Replayed(text);
         told(name, x, n);
         for (int part = 0; part < 4; part++) {
             String here = name + "part " + part + " ";
@@ -36,106 +36,114 @@ public final class CompareTest {
         image(name, x, n);
     }
 
-    private static void told(String name, BeamBoard x, NaiveBoard n) {
+    private static int bit(boolean answer) {
+        return answer ? 1 : 0;
+    }
+
+    private static void told(String name, Replayed x, NaiveBoard n) {
         int[] has = {n.columns, n.rows, n.lamps(), n.mirrors(), n.movers(), n.eyes(), n.pieces.size()};
         for (int what = 0; what < has.length; what++) {
-            CHECK.due(name + "has " + what, x.has(what), has[what]);
+            CHECK.due(name + "has " + what, x.it().has(what), has[what]);
         }
         for (NaiveText.Piece p : n.pieces) {
             for (int k = 0; p.is("eye") && k <= p.name.length(); k++) {
-                CHECK.due(name + "letter", x.letter(p.number, k), k < p.name.length() ? p.name.charAt(k) : -1);
+                CHECK.due(name + "letter", x.it().letter(p.number, k), k < p.name.length() ? p.name.charAt(k) : -1);
             }
         }
     }
 
-    private static void now(String name, BeamBoard x, NaiveBoard n) {
+    private static void now(String name, Replayed x, NaiveBoard n) {
         for (int column = -1; column <= n.columns; column++) {
             for (int row = -1; row <= n.rows; row++) {
                 for (int k = -1; k <= 4; k++) {
-                    CHECK.due(name + "square " + column + " " + row + " " + k, x.square(column, row, k), n.square(column, row, k));
-                    CHECK.due(name + "light " + column + " " + row + " " + k, x.light(column, row, k), n.light(column, row, k));
+                    CHECK.due(name + "square " + column + " " + row + " " + k, x.it().square(column, row, k), n.square(column, row, k));
+                    CHECK.due(name + "light " + column + " " + row + " " + k, x.it().light(column, row, k), n.light(column, row, k));
                 }
             }
         }
         for (int k = -1; k <= 8; k++) {
-            CHECK.due(name + "lit " + k, x.lit(k), n.lit(k));
-            CHECK.due(name + "sees " + k, x.sees(k), n.sees(k));
-            CHECK.due(name + "behind " + k, x.behind(k), n.behind(k));
-            CHECK.due(name + "rings " + k, x.rings(k), n.rings(k));
-            CHECK.due(name + "round " + k, x.round(k), n.round(k));
-            CHECK.due(name + "slow " + k, x.slow(k), n.slow(k));
+            CHECK.due(name + "lit " + k, x.it().lit(k), n.lit(k));
+            CHECK.due(name + "sees " + k, x.it().sees(k), n.sees(k));
+            CHECK.due(name + "behind " + k, x.it().behind(k), n.behind(k));
+            CHECK.due(name + "rings " + k, x.it().rings(k), n.rings(k));
+            CHECK.due(name + "round " + k, x.it().round(k), n.round(k));
+            CHECK.due(name + "slow " + k, x.it().slow(k), n.slow(k));
         }
         for (int k = -2; k <= 1 << n.movers(); k++) {
-            CHECK.due(name + "rests " + k, x.rests(k), n.rests(k));
-            CHECK.due(name + "drawn " + k, x.drawn(k), n.drawn(k));
+            CHECK.due(name + "rests " + k, x.it().rests(k), n.rests(k));
+            CHECK.due(name + "drawn " + k, x.it().drawn(k), n.drawn(k));
         }
-        CHECK.due(name + "steady true", x.steady(true), n.steady(true));
-        CHECK.due(name + "steady false", x.steady(false), n.steady(false));
+        CHECK.due(name + "steady true", x.it().steady(true), n.steady(true));
+        CHECK.due(name + "steady false", x.it().steady(false), n.steady(false));
         for (int lamp = -1; lamp <= n.lamps(); lamp++) {
             for (int eye = -1; eye <= n.eyes(); eye++) {
                 for (int colour = 0; colour <= 4; colour++) {
-                    CHECK.due(name + "reach " + lamp + eye + colour, x.reach(lamp, eye, colour), n.reach(lamp, eye, colour));
+                    CHECK.due(name + "reach " + lamp + eye + colour, x.it().reach(lamp, eye, colour), n.reach(lamp, eye, colour));
                 }
             }
         }
     }
 
-    private static void changes(String name, BeamBoard x, NaiveBoard n) {
-        CHECK.due(name + "met", x.met(), n.met());
-        CHECK.due(name + "fewest false", x.fewest(false), n.fewest(false));
-        CHECK.due(name + "fewest true", x.fewest(true), n.fewest(true));
-        CHECK.due(name + "near", x.near(), n.near());
+    private static void changes(String name, Replayed x, NaiveBoard n) {
+        CHECK.due(name + "met", x.it().met(), n.met());
+        CHECK.due(name + "fewest false", x.it().fewest(false), n.fewest(false));
+        CHECK.due(name + "fewest true", x.it().fewest(true), n.fewest(true));
+        CHECK.due(name + "near", x.it().near(), n.near());
         for (int k = -1; k <= 3; k++) {
-            CHECK.due(name + "darkest " + k, x.darkest(k), n.darkest(k));
-            CHECK.due(name + "more " + k, x.more(k), n.more(k));
-            CHECK.due(name + "solutions " + k, x.solutions(k), n.solutions(k));
+            CHECK.due(name + "darkest " + k, x.it().darkest(k), n.darkest(k));
+            CHECK.due(name + "more " + k, x.it().more(k), n.more(k));
+            CHECK.due(name + "solutions " + k, x.it().solutions(k), n.solutions(k));
         }
         for (int column = -1; column <= n.columns; column++) {
             for (int row = -1; row <= n.rows; row++) {
                 String at = column + " " + row;
-                CHECK.due(name + "needed " + at, x.needed(column, row), n.needed(column, row));
-                CHECK.due(name + "shadow " + at, x.shadow(column, row), n.shadow(column, row));
-                CHECK.due(name + "tint " + at, x.tint(column, row), n.tint(column, row));
+                CHECK.due(name + "needed " + at, x.it().needed(column, row), n.needed(column, row));
+                CHECK.due(name + "shadow " + at, x.it().shadow(column, row), n.shadow(column, row));
+                CHECK.due(name + "tint " + at, x.it().tint(column, row), n.tint(column, row));
                 int other = Math.floorMod(column * 3 + row, n.columns + 1);
-                CHECK.due(name + "swapped " + at, x.swapped(column, row, other, n.rows / 2), n.swapped(column, row, other, n.rows / 2));
+                CHECK.due(name + "swapped " + at, x.it().swapped(column, row, other, n.rows / 2), n.swapped(column, row, other, n.rows / 2));
             }
         }
-        CHECK.due(name + "turned", x.turned(), n.turned);
-        CHECK.due(name + "state", x.state(), n.state);
+        CHECK.due(name + "turned", x.it().turned(), n.turned);
+        CHECK.due(name + "state", x.it().state(), n.state);
     }
 
-    private static void move(String name, BeamBoard x, NaiveBoard n, Boards made) {
+    private static void move(String name, Replayed x, NaiveBoard n, Boards made) {
         int k = made.below(10) - 1;
         switch (made.below(6)) {
-            case 0 -> CHECK.due(name + "turn " + k, x.turn(k), n.turn(k));
-            case 1 -> CHECK.due(name + "set " + k, x.set(7 * k), n.set(7 * k));
-            case 2 -> CHECK.due(name + "step " + k, x.step(k), n.step(k));
-            case 3 -> CHECK.due(name + "back", x.back(), n.back());
+            case 0 -> CHECK.due(name + "turn " + k, x.move(b -> b.turn(k)), n.turn(k));
+            case 1 -> CHECK.due(name + "set " + k, x.move(b -> bit(b.set(7 * k))), bit(n.set(7 * k)));
+            case 2 -> CHECK.due(name + "step " + k, x.move(b -> b.step(k)), n.step(k));
+            case 3 -> CHECK.due(name + "back", x.move(b -> b.back()), n.back());
             default -> {
                 int how = made.below(4);
-                CHECK.due(name + "wish " + k + " " + how, x.wish(k, how), n.wish(k, how));
+                CHECK.due(name + "wish " + k + " " + how, x.move(b -> bit(b.wish(k, how))), bit(n.wish(k, how)));
             }
         }
-        CHECK.due(name + "turned", x.turned(), n.turned);
-        CHECK.due(name + "state", x.state(), n.state);
+        CHECK.due(name + "turned", x.it().turned(), n.turned);
+        CHECK.due(name + "state", x.it().state(), n.state);
     }
 
-    private static void image(String name, BeamBoard x, NaiveBoard n) {
+    private static void image(String name, Replayed x, NaiveBoard n) {
         byte[] image = n.image();
-        CHECK.due(name + "image", x.image(), image.length);
+        CHECK.due(name + "image", x.move(b -> b.image()), image.length);
         for (int k = -1; k <= image.length; k++) {
-            CHECK.due(name + "octet " + k, x.octet(k), k < 0 || k == image.length ? -1 : image[k] & 255);
+            CHECK.due(name + "octet " + k, x.it().octet(k), k < 0 || k == image.length ? -1 : image[k] & 255);
         }
-        x.set(0);
+        x.move(b -> bit(b.set(0)));
         for (int eye = 0; eye < n.eyes(); eye++) {
-            x.wish(eye, 1);
+            int one = eye;
+            x.move(b -> bit(b.wish(one, 1)));
         }
-        Check.feed(x, image, 0);
-        CHECK.due(name + "on", x.on(), true);
-        CHECK.due(name + "back behind on", x.back(), -1);
+        int answer = x.move(Check.callsToFeed(image.length) + 1, b -> {
+            Check.feed(b, image, 0);
+            return bit(b.on());
+        });
+        CHECK.due(name + "on", answer, 1);
+        CHECK.due(name + "back behind on", x.it().back(), -1);
         n.forgetPast();
         changes(name + "behind on ", x, n);
-        x.image();
-        CHECK.due(name + "the same image again", x.octet(image.length - 1), image[image.length - 1] & 255);
+        x.move(b -> b.image());
+        CHECK.due(name + "the same image again", x.it().octet(image.length - 1), image[image.length - 1] & 255);
     }
 }

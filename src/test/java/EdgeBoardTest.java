@@ -455,8 +455,9 @@ public final class EdgeBoardTest {
         for (int k = 0; k < 64; k++) {
             CHECK.due("rests(" + k + ")", x.rests(k), k);
             CHECK.due("drawn(" + k + ")", x.drawn(k), 1);
-            x.set(k);
-            rounds(x, 0, 1, k, k);
+            BeamBoard y = Check.board(Machine.keeps(6));
+            y.set(k);
+            rounds(y, 0, 1, k, k);
         }
         CHECK.due("rests(64)", x.rests(64), NONE);
         CHECK.due("rests(-2)", x.rests(-2), NONE);

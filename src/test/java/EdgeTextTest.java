@@ -26,6 +26,7 @@ public final class EdgeTextTest {
         otherBytes();
         missingBlanks();
         cutText();
+        strayBytes();
         sizes();
         squares();
         digits();
@@ -143,6 +144,25 @@ public final class EdgeTextTest {
         for (int length = 0; length <= 1600; length += length < 5 ? 1 : 319) {
             bad(1, " ".repeat(length), "");
             bad(1, "\n".repeat(length), "");
+        }
+    }
+
+    /** A byte that no text has, and a ; where none may stand, ahead of each word, number and sign. */
+    private static void strayBytes() {
+        String[] words = ALL_KINDS.split(" ");
+        for (int i = 0; i <= words.length; i++) {
+            String ahead = String.join(" ", Arrays.copyOf(words, i)) + " ";
+            String behind = " " + String.join(" ", Arrays.copyOfRange(words, i, words.length));
+            bad(1, ahead, "?" + behind);
+            bad(1, ahead, "\u00e9" + behind);
+            bad(1, ahead + "xxxxxx", "x" + behind);
+            bad(1, ahead + "0000", "0" + behind);
+            if (i == words.length || !words[i].equals(";")) {
+                bad(1, ahead, ";" + behind);
+            } else {
+                // The first ; ends the statement, the second is none.
+                bad(1, ahead + "; ", behind.trim());
+            }
         }
     }
 

@@ -99,6 +99,8 @@ public final class LanguageTest {
                 CHECK.due("line " + (i + 1) + " has " + word, has(code, word), false);
             }
             CHECK.due("line " + (i + 1) + " joins texts by +", code.contains("\" +") || code.contains("+ \""), false);
+            boolean isField = code.matches(" {4,8}(private |static )*(final )?[A-Za-z]+(\\[])? [a-zA-Z]+ = new [^;]+;");
+            CHECK.due("line " + (i + 1) + " makes an object in a call", has(code, "new") && !isField, false);
             CHECK.due("line " + (i + 1) + " imports", code.startsWith("import") && !code.equals("import java.util.Arrays;"), false);
             if (code.endsWith(") {") && code.matches(" {4}(| {4})[a-zA-Z].*")) {
                 methodStart = i;

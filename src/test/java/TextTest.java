@@ -289,7 +289,7 @@ public final class TextTest {
     /** One board behind the other, with refused ones between: nothing of one is left in another. */
     private static void manyBoards() {
         BeamBoard x = new BeamBoard();
-        for (int i = 0; i < 6; i++) {
+        for (int i = 0; i < 3; i++) {
             String name = "round " + i + ": ";
             CHECK.due(name + "the first", Check.read(x, "size 12 3;lamp red right at 0 0;eye abc at 2 0;eye b at 3 0;mirror back at 11 2;"
                     + "shutter when sees abc red at 1 0;wall at 5 2;glass red at 1 1;vane slash when not all at 2 2;"), 9);
@@ -330,10 +330,10 @@ public final class TextTest {
         cut("size 12 12;", "wall at 0 0", 0, NONE);
         cut("size 12 12; ", ";", 0, NONE);
         cut("", "size 12 12;", 1, 0);
-        BeamBoard x = new BeamBoard();
         String[] long1600 = {"a", "1", ";", "[", " ", "?", "a;"};
         int[] places = {6, 4, 0, 0, 1600, 0, 0};
         for (int i = 0; i < long1600.length; i++) {
+            BeamBoard x = new BeamBoard();
             Check.feed(x, long1600[i].repeat(1600 / long1600[i].length()));
             CHECK.due("1600 bytes " + long1600[i], x.board(), NONE);
             CHECK.due("1600 bytes " + long1600[i], x.fault(0), 1);

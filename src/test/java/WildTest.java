@@ -1,12 +1,15 @@
 /** No call ever throws or fails to end, whatever its arguments, in whatever state; and refused calls change nothing. */
 public final class WildTest {
     private static final Check CHECK = new Check("WildTest");
-    private static final int OBJECTS = 300;
-    private static final int CALLS = 512;
+    private static final int OBJECTS = 1200;
+    private static final int MOST_CALLS = 512;
+    // The most that one round takes: a text of 1600 bytes fed, read and looked at.
+    private static final int ROUND = 84;
     private static final int[] ODD = {Integer.MIN_VALUE, Integer.MAX_VALUE, -1, -2, 0, 1, 2, 3, 7, 8, 12, 13, 31, 32, 64, 144, 255, 256, 1000, 1001, 1 << 30};
 
     private final BeamBoard x = new BeamBoard();
     private final Boards made;
+    private int calls;
 
     private WildTest(long seed) {
         made = new Boards(seed);
@@ -16,7 +19,7 @@ public final class WildTest {
         for (long seed = 1; seed <= OBJECTS; seed++) {
             WildTest one = new WildTest(seed);
             String text = one.made.text(7);
-            for (int call = 0; call < CALLS; call++) {
+            while (one.calls <= MOST_CALLS - ROUND) {
                 one.call(text);
             }
             CHECK.due("seed " + seed + " came to its end", 1, 1);
@@ -32,8 +35,10 @@ public final class WildTest {
         int kind = made.below(30);
         if (kind == 0) {
             int before = x.has(6);
-            Check.feed(x, made.below(3) == 0 ? text : made.spoilt(text));
+            String told = made.below(3) == 0 ? text : made.spoilt(text);
+            Check.feed(x, told);
             int answer = x.board();
+            calls += Check.callsToFeed(told.length()) + 3;
             CHECK.due("pieces, one less than the statements", x.has(6), answer == -1 ? before : answer - 1);
         } else if (kind == 1) {
             image();
@@ -54,6 +59,7 @@ public final class WildTest {
         }
         int turned = x.turned();
         int state = x.state();
+        calls += bytes.length + Check.callsToFeed(bytes.length) + 6;
         Check.feed(x, bytes, 0);
         if (!x.on()) {
             CHECK.due("turned() behind a refused image", x.turned(), turned);
@@ -66,6 +72,7 @@ public final class WildTest {
         int state = x.state();
         int lit = x.lit(7);
         int met = x.met();
+        calls += 9;
         switch (kind) {
             case 2 -> x.has(any());
             case 3 -> x.letter(any(), any());
@@ -105,6 +112,7 @@ public final class WildTest {
     }
 
     private void move(int kind) {
+        calls++;
         switch (kind) {
             case 12, 13 -> x.turn(any());
             case 14, 15 -> x.set(any());
