@@ -2,6 +2,17 @@
 public final class CompareTest {
     private static final Check CHECK = new Check("CompareTest");
     private static final int BOARDS = 200;
+    /** Prisms and halves that part eight lamps' light till almost each square has it by all ways, in colours apart. */
+    private static final String MUCH_LIGHT = "size 12 12;lamp white up at 7 11;lamp white up at 2 11;lamp white down at 11 0;"
+            + "lamp white up at 6 11;lamp white up at 5 11;lamp white up at 3 11;lamp white up at 4 11;"
+            + "lamp white up at 9 11;half back at 8 0;half slash at 1 1;half slash at 6 0;half slash at 9 0;"
+            + "half back at 10 0;half back at 1 8;half back at 7 1;half slash at 10 8;prism at 6 10;prism at 5 10;"
+            + "prism at 11 2;prism at 11 1;prism at 3 5;prism at 4 9;prism at 0 10;prism at 11 11;prism at 2 10;"
+            + "prism at 1 0;prism at 0 11;prism at 1 11;prism at 10 11;prism at 3 0;prism at 0 8;prism at 11 5;"
+            + "prism at 8 10;prism at 11 4;prism at 11 9;prism at 3 10;prism at 9 10;prism at 0 4;prism at 0 0;"
+            + "prism at 4 0;prism at 11 7;prism at 2 0;prism at 9 3;prism at 0 7;prism at 0 5;prism at 11 8;"
+            + "prism at 5 0;prism at 0 6;prism at 7 10;prism at 11 3;prism at 8 2;prism at 11 10;prism at 0 2;"
+            + "prism at 0 3;prism at 7 2;prism at 0 9;prism at 0 1;prism at 8 7;prism at 11 6;";
 
     public static void main(String[] args) {
         int boards = args.length > 0 ? Integer.parseInt(args[0]) : BOARDS;
@@ -9,6 +20,9 @@ public final class CompareTest {
         for (long seed = first; seed < first + boards; seed++) {
             compare(seed);
         }
+        NaiveText much = new NaiveText(MUCH_LIGHT);
+        much.read();
+        now("much light: ", new Replayed(MUCH_LIGHT), new NaiveBoard(much));
         CHECK.finish();
     }
 

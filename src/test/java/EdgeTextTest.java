@@ -32,6 +32,8 @@ public final class EdgeTextTest {
         digits();
         ownWordsAsNames();
         ownWordsInPlaces();
+        nothingPosesAsAnother();
+        longest();
         names();
         mostOfAKind();
         sixtyStatements();
@@ -319,6 +321,64 @@ public final class EdgeTextTest {
         bad(1, HEAD + "shutter when [[all] ", "at 0 0;");
         bad(1, HEAD + "shutter when [all", ";");
         bad(1, HEAD + "shutter when sees ", "[q red] at 0 0;");
+    }
+
+    /** Names of one or two letters, and numbers, are no words and no signs, whatever place they have among names and numbers. */
+    private static void nothingPosesAsAnother() {
+        String[] ahead = {"", HEAD, HEAD + "lamp ", HEAD + "lamp red ", HEAD + "lamp red up ", HEAD + "mirror ", HEAD + "half slash ",
+            HEAD + "glass ", HEAD + "wall ", HEAD + "eye a ", HEAD + "shutter ", HEAD + "shutter when ", HEAD + "shutter when all ",
+            HEAD + "shutter when not ", HEAD + "shutter when [", HEAD + "shutter when [all ", HEAD + "vane ", HEAD + "vane slash ",
+            EYE + "shutter when sees q ", EYE + "shutter when sees q red ", "size 2 2 ", HEAD + "wall at 0 0 "};
+        for (String text : ahead) {
+            for (int number = 0; number <= 130; number++) {
+                bad(1, text, number + " ;");
+            }
+            for (int i = 0; i < 27 * 26; i++) {
+                String name = (i < 26 ? "" : "" + (char) ('a' + i / 26 - 1)) + (char) ('a' + i % 26);
+                if (!OWN.contains(name)) {
+                    bad(1, text, name + " ;");
+                }
+            }
+        }
+        String[] numbers = {"size ", "size 2 ", HEAD + "wall at ", HEAD + "wall at 0 "};
+        for (String text : numbers) {
+            for (char name = 'a'; name <= 'z'; name++) {
+                bad(1, text, name + " ;");
+            }
+        }
+    }
+
+    // ---- texts of 1600 bytes, up to the last
+
+    private static void longest() {
+        for (String word : OWN) {
+            for (int length = 1; length <= word.length(); length++) {
+                String end = word.substring(0, length);
+                String blanks = " ".repeat(1600 - length);
+                // The word size may begin a text; it ends too soon then.
+                bad(1, blanks + (end.equals("size") ? end : ""), end.equals("size") ? "" : end);
+                String text = HEAD + " ".repeat(1600 - HEAD.length() - length);
+                bad(1, text + (PIECES.contains(end) ? end : ""), PIECES.contains(end) ? "" : end);
+            }
+        }
+        bad(1, " ".repeat(1594), "xxxxxx");
+        bad(1, " ".repeat(1593) + "xxxxxx", "x");
+        bad(1, " ".repeat(1595) + "1234", "5");
+        CHECK.good(" ".repeat(1591) + "size 2 2;", 1);
+        CHECK.good("size 2 2;" + " ".repeat(1591), 1);
+        bad(1, " ".repeat(1592) + "size 2 2", "");
+        // As many facts as a text can hold, and another mover behind them.
+        String start = "size 2 2;shutter when not[[all]";
+        String end = "]at 0 0;vane slash when all at 1 0;";
+        int facts = (1600 - start.length() - end.length()) / "or[all]".length();
+        String text = start + "or[all]".repeat(facts) + end;
+        for (String full : new String[] {text, text + " ".repeat(1600 - text.length())}) {
+            BeamBoard x = new BeamBoard();
+            CHECK.due("a text of " + facts + " facts", Check.read(x, full), 3);
+            CHECK.due("step(1)", x.step(1), 2);
+        }
+        BeamBoard y = Check.board(text.replace("not[", "[").replace("slash when all", "slash when not all"));
+        CHECK.due("step(1)", y.step(1), 1);
     }
 
     /** Words that may not stand there have the fault at their first byte; without an end the others have it at the end. */

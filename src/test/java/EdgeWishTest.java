@@ -382,6 +382,17 @@ public final class EdgeWishTest {
                 more(both, NONE, NONE, NONE);
             }
         }
+        // A mirror that is turned turns no other: neither form is another one then.
+        BeamBoard turned = Check.board("size 4 4;mirror slash at 3 3;half slash at 2 3;lamp red right at 0 1;eye a at 1 0;eye b at 1 2;");
+        for (int mirror = 0; mirror < 2; mirror++) {
+            turned.turn(mirror);
+            turned.wish(0, 1);
+            turned.wish(1, 0);
+            more(turned, 1, 1, 0);
+            turned.wish(0, 0);
+            turned.wish(1, 1);
+            more(turned, 1, 1, 1);
+        }
         // The last square of all: light must come down the last column to the last row.
         BeamBoard last = Check.board("size 4 4;lamp red down at 3 0;eye a at 0 3;");
         last.wish(0, 1);
@@ -408,6 +419,12 @@ public final class EdgeWishTest {
         more(x, NONE, NONE, NONE);
         x.set(1);
         more(x, 0, 0, 0);
+        // In the last of sixty-four states alone light goes up through all six shutters to g.
+        BeamBoard last = Check.board(twoRowsLower(Machine.countsUp(6)) + "eye g at 2 0;lamp green up at 2 8;");
+        CHECK.due("g is lit in the end", last.steady(true), 127);
+        shadow(last, 2, 1, 1);
+        last.wish(6, 2);
+        more(last, 2, 1, 0);
         // Half way: one step on, light comes for a while where there was none, and is gone in the end.
         BeamBoard y = Check.board("size 4 6;lamp red right at 0 0;shutter when not all at 1 0;eye a at 2 0;"
                 + "lamp red right at 0 2;shutter when sees a red at 1 2;eye b at 3 2;"
@@ -418,6 +435,17 @@ public final class EdgeWishTest {
         darkest(y, 2, 2, 1);
         y.wish(2, 2);
         more(y, 2, 2, 0);
+    }
+
+    /** The board of a machine with two empty rows above it, and one below. */
+    private static String twoRowsLower(String machine) {
+        StringBuilder text = new StringBuilder();
+        for (String statement : machine.split("(?<=;)")) {
+            int row = statement.charAt(statement.length() - 2) - '0';
+            int more = statement.startsWith("size") ? 3 : 2;
+            text.append(statement, 0, statement.length() - 2).append(row + more).append(';');
+        }
+        return text.toString();
     }
 
     // ---- "unlike THE STATE in the fewest bits, of like ones the least, FROM which the WISHES are MET"
@@ -516,6 +544,12 @@ public final class EdgeWishTest {
             CHECK.due("tint outside", x.tint(at[0], at[1]), NONE);
         }
         CHECK.due("tint(11, 10)", x.tint(11, 10), 0);
+        BeamBoard first = Check.board("size 3 3;glass red at 1 1;eye a at 2 2;");
+        for (int[] at : outside) {
+            CHECK.due("tint outside, glass being the first piece", first.tint(at[0], at[1]), NONE);
+        }
+        CHECK.due("tint of an empty square", first.tint(0, 0), NONE);
+        CHECK.due("tint(1, 1)", first.tint(1, 1), 0);
     }
 
     // ---- "SWAPPED of two unlike SQUARES: 1, 0; NONE if there are none such"
